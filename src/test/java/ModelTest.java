@@ -26,7 +26,11 @@ public final class ModelTest {
     }
 
     private void run(int seed) {
-        makeNet();
+        if (seed % 8 == 0) {
+            linkAndBuild();
+        } else {
+            makeNet();
+        }
         for (int c = 0; c < CALLS && !Check.isWrong(); c++) {
             int kind = random.nextInt(100);
             if (kind < 1) {
@@ -48,6 +52,10 @@ public final class ModelTest {
     private void makeNet() {
         n = 2 + random.nextInt(11);
         due("open(" + n + ")", net.open(n), model.open(n));
+        linkAndBuild();
+    }
+
+    private void linkAndBuild() {
         for (int i = 1; i < n; i++) {
             if (random.nextInt(60) != 0) {
                 link(i, random.nextInt(3) == 0 ? i - 1 : random.nextInt(i), true);
@@ -132,8 +140,7 @@ public final class ModelTest {
     private void readingCall(int kind, int i, int j, int k, int w) {
         int v = number();
         switch ((kind - 49) / 2) {
-            case 0 -> due("open(" + v + ")", v >= 2 && v <= 12 ? -102 : net.open(v),
-                    v >= 2 && v <= 12 ? -102 : model.open(v));
+            case 0 -> openWrongly(v);
             case 1 -> link(i, j, k < 6);
             case 2 -> due("build()", net.build(), model.build());
             case 3 -> due("value(" + i + ", " + v + ")", net.value(i, v), model.value(i, v));
@@ -157,6 +164,12 @@ public final class ModelTest {
             default -> due("step(-1)", net.step(-1), model.step(-1));
         }
         n = model.count(0);
+    }
+
+    /** A right open() would end the net too often: makeNet() has those. */
+    private void openWrongly(int v) {
+        int nodes = v >= 2 && v <= 12 ? 13 : v;
+        due("open(" + nodes + ")", net.open(nodes), model.open(nodes));
     }
 
     private void compareAll() {
