@@ -4,7 +4,7 @@ import java.lang.management.ManagementFactory;
 public final class RoomTest {
     private static final int CALLS = 512;
     /** What asking and the loading of a class may take; an object a call would be far beyond it. */
-    private static final long ASKING = 2400;
+    private static final long ASKING = 4000;
 
     public static void main(String[] args) {
         // The first question loads classes, which is not the net's doing.
