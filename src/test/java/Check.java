@@ -18,6 +18,10 @@ final class Check {
         due(what, is ? 1 : 0, 1);
     }
 
+    static int wrongSoFar() {
+        return wrong;
+    }
+
     static boolean isWrong() {
         return wrong != 0;
     }

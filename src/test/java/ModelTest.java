@@ -2,7 +2,10 @@ import java.util.Random;
 
 /** Runs of calls drawn from fixed seeds: StableNet answers each as the Model does. */
 public final class ModelTest {
-    private static final int RUNS = 400, CALLS = 512;
+    /** What an object answers beyond 512 calls is free. */
+    private static final int RUNS = 3000, CALLS = 512;
+    /** As many as makeNet() and compareAll(), and that once more at the end, can take. */
+    private static final int CALLS_AT_ONCE = 160;
     private static final int[] EDGES = {
         Integer.MIN_VALUE, -1000, -6, -5, -2, -1, 0, 1, 2, 3, 4, 5, 6, 9, 11, 12, 13, 16, 17, 24, 25, 26,
         99, 299, 300, 301, 2000, 2001, Integer.MAX_VALUE - 1, Integer.MAX_VALUE
@@ -12,6 +15,7 @@ public final class ModelTest {
     private final StableNet net = new StableNet();
     private final Model model = new Model();
     private int n = 2;
+    private int calls = 0;
     private String call = "";
 
     private ModelTest(long seed) {
@@ -31,14 +35,14 @@ public final class ModelTest {
         } else {
             makeNet();
         }
-        for (int c = 0; c < CALLS && !Check.isWrong(); c++) {
+        while (calls + CALLS_AT_ONCE < CALLS && !Check.isWrong()) {
             int kind = random.nextInt(100);
             if (kind < 1) {
                 makeNet();
             } else {
                 oneCall(kind);
             }
-            if (random.nextInt(8) == 0) {
+            if (random.nextInt(16) == 0) {
                 compareAll();
             }
         }
@@ -106,6 +110,7 @@ public final class ModelTest {
     }
 
     private void due(String what, long got, long want) {
+        calls++;
         call = what;
         if (!Check.isWrong()) {
             Check.due(call, got, want);

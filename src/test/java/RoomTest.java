@@ -1,8 +1,8 @@
 import java.lang.management.ManagementFactory;
 
-/** The dearest calls, 512 on one object: they end soon, and make no objects. */
-public final class RoomTest {
-    private static final int CALLS = 512;
+/** The dearest calls, up to 512 on one object: they end soon, and make no objects. */
+public final class RoomTest extends Nets {
+    private static final int CALLS = 512, BUILDING = 69;
     /** What asking and the loading of a class may take; an object a call would be far beyond it. */
     private static final long ASKING = 4000;
 
@@ -16,14 +16,8 @@ public final class RoomTest {
         Check.end("RoomTest");
     }
 
-    private static StableNet full() {
-        StableNet x = new StableNet();
-        x.open(12);
-        for (int a = 0; a < 12; a++) {
-            for (int b = 0; b < a; b++) {
-                x.link(a, b, true);
-            }
-        }
+    private static StableNet builtFull() {
+        StableNet x = full(12);
         x.build();
         return x;
     }
@@ -33,9 +27,9 @@ public final class RoomTest {
     }
 
     private static void fullNet(int way) {
-        StableNet x = full();
+        StableNet x = builtFull();
         long before = made();
-        for (int c = 0; c < CALLS / 3; c++) {
+        for (int c = 0; c < (CALLS - BUILDING) / 3; c++) {
             x.fault(c % 12, 5 + c % 11, c);
             x.settle(way, 2000);
             x.run(way, 300);
@@ -48,12 +42,12 @@ public final class RoomTest {
     private static void everyCallMakesNothing() {
         StableNet[] nets = new StableNet[20];
         for (int r = 0; r < nets.length; r++) {
-            nets[r] = full();
+            nets[r] = builtFull();
         }
         int sum = 0;
         long before = made();
         for (StableNet x : nets) {
-            for (int c = 0; c < 16; c++) {
+            for (int c = 0; c < (CALLS - BUILDING) / 26; c++) {
                 sum += everyCall(x, c);
             }
         }
